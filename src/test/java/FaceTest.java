@@ -1,0 +1,127 @@
+import java.io.IOException;
+import java.lang.reflect.Constructor;
+import java.lang.reflect.Field;
+import java.lang.reflect.Method;
+import java.lang.reflect.Modifier;
+import java.nio.charset.StandardCharsets;
+import java.nio.file.Files;
+import java.nio.file.Path;
+import java.util.Arrays;
+import java.util.Set;
+import java.util.TreeSet;
+import java.util.stream.Collectors;
+
+/** The class's face as the document has it, and what LANGUAGE.md forbids in its file. */
+public final class FaceTest {
+    private static final Checks C = new Checks("FaceTest");
+    private static final String SOURCE = "src/main/java/PaperPays.java";
+    private static final String[] FACE = {
+        "int type(long,int)", "int clear()", "int rules()", "int rule(int)", "int person(int,int)",
+        "int worth(int,int)", "int odds(int,int)", "int go(int)", "int now(int)", "int board(int)",
+        "int high(int)", "int gain(int)", "int again()", "int renew(int)", "int revive(int)",
+        "int would(int,int,int)", "int lot(int)", "int ride(int,int)", "int rests(int,int,int)",
+        "int hold(int,int,int)", "int out(int)", "int clue(int)", "int fit(int,int)", "int say(int,int)",
+        "int said(int,int)", "int truest()", "int mark(int,int)", "int keep(int)", "int back(int)",
+        "int count(int)", "long trace()"};
+    private static final String[] FORBIDDEN = {
+        "import ", "throw", "try ", "catch", "synchronized", "assert", "->", "::", "Exact", "System.out",
+        "Random", "Thread", "hashCode", "toString", "equals(", "static {", "HashMap", "LinkedList"};
+
+    private FaceTest() {
+    }
+
+    public static void main(String[] args) throws IOException {
+        constants();
+        methods();
+        fields();
+        nested();
+        source();
+        C.end();
+    }
+
+    private static void constants() {
+        C.due("BAD", PaperPays.BAD, -1);
+        C.due("STATE", PaperPays.STATE, -2);
+        C.due("FULL", PaperPays.FULL, -3);
+        C.due("NONE", PaperPays.NONE, -9);
+        C.due("NO", PaperPays.NO, -1000000);
+    }
+
+    private static String told(Method m) {
+        String kinds = Arrays.stream(m.getParameterTypes()).map(Class::getName).collect(Collectors.joining(","));
+        return m.getReturnType().getName() + " " + m.getName() + "(" + kinds + ")";
+    }
+
+    private static void truth(String of, boolean stands) {
+        C.due(of, stands ? 1 : 0, 1);
+    }
+
+    private static void methods() {
+        Set<String> open = new TreeSet<>();
+        Set<String> openNames = new TreeSet<>();
+        Set<String> otherNames = new TreeSet<>();
+        for (Method m : PaperPays.class.getDeclaredMethods()) {
+            if (Modifier.isPrivate(m.getModifiers())) {
+                otherNames.add(m.getName());
+            } else {
+                truth("public: " + m, Modifier.isPublic(m.getModifiers()));
+                open.add(told(m));
+                openNames.add(m.getName());
+            }
+        }
+        for (Class<?> inside : PaperPays.class.getDeclaredClasses()) {
+            for (Method m : inside.getDeclaredMethods()) {
+                otherNames.add(m.getName());
+            }
+        }
+        truth("the methods are the face's: " + open, open.equals(new TreeSet<>(Arrays.asList(FACE))));
+        otherNames.retainAll(openNames);
+        truth("no other method has a public one's name: " + otherNames, otherNames.isEmpty());
+        Constructor<?>[] made = PaperPays.class.getDeclaredConstructors();
+        truth("one public constructor", made.length == 1 && Modifier.isPublic(made[0].getModifiers())
+            && made[0].getParameterCount() == 0);
+        truth("public and final", Modifier.isPublic(PaperPays.class.getModifiers())
+            && Modifier.isFinal(PaperPays.class.getModifiers()));
+    }
+
+    private static void fields() {
+        Set<String> open = new TreeSet<>();
+        for (Field f : PaperPays.class.getDeclaredFields()) {
+            if (!Modifier.isPrivate(f.getModifiers())) {
+                open.add(f.getName());
+                truth("a constant: " + f, Modifier.isStatic(f.getModifiers()) && Modifier.isFinal(f.getModifiers())
+                    && Modifier.isPublic(f.getModifiers()));
+            }
+        }
+        truth("the fields are the face's", open.equals(new TreeSet<>(Arrays.asList("BAD", "STATE", "FULL", "NONE", "NO"))));
+    }
+
+    private static void nested() {
+        Class<?>[] all = PaperPays.class.getDeclaredClasses();
+        truth("twelve classes at most", all.length < 12);
+        for (Class<?> inside : all) {
+            truth("static: " + inside, Modifier.isStatic(inside.getModifiers()));
+            truth("not open: " + inside, !Modifier.isPublic(inside.getModifiers())
+                && !Modifier.isProtected(inside.getModifiers()));
+        }
+        for (Class<?> any : all) {
+            long fields = Arrays.stream(any.getDeclaredFields())
+                .filter(f -> !Modifier.isStatic(f.getModifiers())).count();
+            truth("twenty fields at most: " + any, fields <= 20);
+            for (Field f : any.getDeclaredFields()) {
+                truth("no static state: " + f, !Modifier.isStatic(f.getModifiers()) || Modifier.isFinal(f.getModifiers()));
+            }
+            for (Method m : any.getDeclaredMethods()) {
+                truth("seven parameters at most: " + m, m.getParameterCount() <= 7);
+            }
+        }
+    }
+
+    private static void source() throws IOException {
+        String text = Files.readString(Path.of(SOURCE), StandardCharsets.UTF_8);
+        truth("signs 1 to 127", text.chars().allMatch(c -> c > 0 && c < 128));
+        for (String word : FORBIDDEN) {
+            truth("the source has no '" + word + "'", !text.contains(word));
+        }
+    }
+}
