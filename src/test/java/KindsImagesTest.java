@@ -10,6 +10,7 @@ public final class KindsImagesTest {
         marksRefused();
         traceOfEach();
         keepAndBack();
+        imageOfPrices();
         imagesRefused();
         imageKeepsNothingElse();
         imageOfWhatWasSaid();
@@ -109,6 +110,34 @@ public final class KindsImagesTest {
         x.again();
         C.due("back(1) over", x.back(1), 3);
         C.due("over", x.now(5), 1);
+    }
+
+    /** Another market by other dice leaves other prices; back, they are as they were. */
+    private static void imageOfPrices() {
+        PaperPays x = Checks.with("rounds 5;start 40;pays 0 0;sales 1;person mistaken 20 99 0;person mistaken 10 0 9;"
+            + "person rising 3 0 0;");
+        x.go(1);
+        x.keep(0);
+        Checks.type(x, "x");
+        C.due("value kept", x.person(2, 4), 8);
+        x.go(3);
+        C.due("value later", x.person(2, 4), 15);
+        x.back(0);
+        C.due("value back", x.person(2, 4), 8);
+        C.due("prev back", x.now(2), 40);
+        x = Checks.with("rounds 3;start 12;pays 2 2;person fresh 9 99 0;person worth 0 9;");
+        x.go(3);
+        int first = x.board(0);
+        int second = x.board(1);
+        int bubble = x.high(3);
+        x.keep(1);
+        x.again();
+        x.go(3);
+        C.due("other prices", x.board(0) != first ? 1 : 0, 1);
+        x.back(1);
+        C.due("board(0) back", x.board(0), first);
+        C.due("board(1) back", x.board(1), second);
+        C.due("bubble back", x.high(3), bubble);
     }
 
     private static void imagesRefused() {

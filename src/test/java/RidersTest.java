@@ -71,6 +71,8 @@ public final class RidersTest {
         rests("rounded down", riders(1, 0, 0), 3, 1, 7, 0);
         // Out in the last round at 91 ; the two others have 99.
         rests("the last round", riders(90, 1, 99), 3, 1, 3, 11);
+        // One in 1 at 91, not 90 in 0, nor a third of 92 in 2.
+        rests("a first one above 100", riders(90, 1, 99), 3, 2, 3, 122);
     }
 
     private static void restsRefused() {

@@ -18,6 +18,7 @@ public final class RoomTest {
         purses();
         shorts();
         buyerIsNoSeller();
+        firstSeller();
         bidMeetsAsk();
         salesMovePrice();
         dice();
@@ -241,6 +242,27 @@ public final class RoomTest {
         has("three", x, 1, 117, 3);
     }
 
+    /** The first of those who ask as little sells, be it person 0; a later one only for less. */
+    private static void firstSeller() {
+        PaperPays x = Checks.with("pays 0 0;sales 1;person mistaken 5 0 1;person mistaken 7 0 1;"
+            + "person mistaken 5 0 1;person mistaken 30 99 0;");
+        x.go(1);
+        now("the first of 5", x, 1, 18, 0, 1, 0, 0);
+        has("the first of 5", x, 0, 18, 0);
+        x.go(1);
+        has("the other of 5", x, 2, 18, 0);
+        x.go(1);
+        has("then 7", x, 1, 19, 0);
+        x = Checks.with("pays 0 0;sales 1;person mistaken 20 50 0;person mistaken 19 50 0;"
+            + "person mistaken 20 50 0;person mistaken 5 0 9;");
+        x.go(1);
+        has("the first of 20", x, 0, 37, 1);
+        x.go(3);
+        has("20 once more, till the coins are too few", x, 0, 11, 3);
+        has("then the other 20", x, 2, 37, 1);
+        has("19 bought none", x, 1, 50, 0);
+    }
+
     private static void bidMeetsAsk() {
         PaperPays x = Checks.with("pays 0 0;start 3;person mistaken 11 99 0;person mistaken 10 0 1;");
         x.go(1);
@@ -392,6 +414,16 @@ public final class RoomTest {
 
     private static void would() {
         PaperPays x = Checks.with(SMALL);
+        // What was played already doesn't count: each is tried from the begin.
+        x.go(1);
+        C.due("on the way, one a round: bubble", x.would(4, 1, 1), 66);
+        // With a fee of 9 the third sheet waits for ROUND 2, at 18.
+        C.due("on the way, fee 9: sales", x.would(3, 9, 2), 3);
+        C.due("on the way, fee 9: bubble", x.would(3, 9, 1), 68);
+        C.due("on the way, fee 0: sales", x.would(3, 0, 2), 3);
+        C.due("on the way, fee 0: bubble", x.would(3, 0, 1), 68);
+        C.due("on the way, lid 9: peak", x.would(2, 9, 0), 10);
+        x = Checks.with(SMALL);
         C.due("as it is: peak", x.would(4, 5, 0), 20);
         C.due("as it is: bubble", x.would(4, 5, 1), 68);
         C.due("as it is: sales", x.would(4, 5, 2), 3);
@@ -427,7 +459,14 @@ public final class RoomTest {
         x = Checks.with("pays 0 0;rounds 3;fee 1;lent 10;lid 20;person mistaken 30 10 0;person mistaken 9 0 2;");
         C.due("fee 1", x.would(3, 1, 2), 0);
         C.due("fee 0 is enough", x.would(3, 0, 2), 1);
-        C.due("start stays", x.rule(7), 20);
+        C.due("the lid stays", x.rule(7), 20);
+        x = Checks.with("rounds 6;pays 2 2;start 12;person fresh 9 99 0;person worth 0 9;");
+        C.due("new ones: peak", x.would(4, 5, 0), 17);
+        x.go(6);
+        x.again();
+        C.due("those who saw: peak", x.would(4, 5, 0), 13);
+        C.due("revive(17) on top", x.revive(17), 1);
+        C.due("those who saw: peak again", x.would(4, 5, 0), 13);
     }
 
     private static void lot() {

@@ -151,6 +151,9 @@ public final class RulesTest {
         faults("roundz 5;", 0);
         faults("round 5;", 0);
         faults("roundss 5;", 0);
+        faults("bee 5;", 0);
+        faults("feez 5;", 0);
+        faults("afee 5;", 0);
         faults("rounds 5;Fee 1;", 9);
         faults("fee\t1;", 3);
         faults("fee\n1;", 3);
@@ -315,6 +318,13 @@ public final class RulesTest {
         C.due("person(9, 0)", x.person(9, 0), -1000000);
         C.due("person(0, -1)", x.person(0, -1), -1000000);
         C.due("person(0, 6)", x.person(0, 6), -1000000);
+        Checks.rules(x, "person worth 1 2;person mistaken 3 4 5;");
+        C.due("told anew: n of 0", x.person(0, 1), 0);
+        C.due("told anew: n of 1", x.person(1, 1), 3);
+        C.due("told anew: count(1)", x.count(1), 7);
+        C.due("told anew: count(2)", x.count(2), 5);
+        C.due("told anew: person(2, 0)", x.person(2, 0), -1000000);
+        x = Checks.with("person worth 11 1;person worth 12 2;person worth 13 3;person worth 14 4;person worth 15 5;");
         C.due("count(0)", x.count(0), 5);
         C.due("count(1)", x.count(1), 15);
         C.due("count(2)", x.count(2), 65);
