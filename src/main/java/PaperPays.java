@@ -122,7 +122,7 @@ public final class PaperPays {
     }
 
     public int board(int r) {
-        return isWithin(r, 0, room.round - 1) ? room.board[r] : BAD;
+        return isWithin(r, 0, room.round - 1) ? room.boardAt(r) : BAD;
     }
 
     public int high(int what) {
@@ -418,7 +418,8 @@ public final class PaperPays {
         }
 
         int worthIn(int round) {
-            return halvesIn(round) / 2;
+            int dicePay = (numbers[ROUNDS] - round) * (numbers[EVEN_PAY] + numbers[ODD_PAY]);
+            return dicePay / 2 + numbers[END];
         }
 
         int oddsOf(int round, int k) {
@@ -441,8 +442,10 @@ public final class PaperPays {
         private static final int MOST_TEXT = 400;
         // Kinds of a token; NOTHING is what can stand nowhere.
         private static final int NOTHING = 0, THE_END = 1, STOP = 2, NUMBER = 3, WORD = 4;
-        // Words by number: those of one rule each, person, and then the laws in their order.
-        private static final int PAYS_WORD = 1, PERSON_WORD = 9, FIRST_LAW = 10, WORDS = 15;
+        // A word's number is its place here: those of the rules, person, and then the laws in their order.
+        private static final String WORDS =
+            "rounds pays end start lent short lid fee sales person worth rising riding mistaken fresh ";
+        private static final int PAYS_WORD = 1, PERSON_WORD = 9, FIRST_LAW = 10;
 
         final byte[] text = new byte[MOST_TEXT];
         int length = 0;
@@ -477,7 +480,8 @@ public final class PaperPays {
                 if (kind == THE_END) {
                     break;
                 }
-                if (!readItem()) {
+                boolean stands = kind == WORD && (value == PERSON_WORD ? readPerson() : readRule(value));
+                if (!stands || !readStop()) {
                     fault = place;
                     return false;
                 }
@@ -487,20 +491,8 @@ public final class PaperPays {
             return true;
         }
 
-        private boolean readItem() {
-            if (kind != WORD || value > PERSON_WORD) {
-                return false;
-            }
-            boolean stands = value == PERSON_WORD ? readPerson() : readRule(value);
-            if (!stands) {
-                return false;
-            }
-            readToken();
-            return kind == STOP;
-        }
-
         private boolean readRule(int word) {
-            if ((toldWords >> word & 1) != 0) {
+            if (word >= PERSON_WORD || (toldWords >> word & 1) != 0) {
                 return false;
             }
             toldWords |= 1 << word;
@@ -551,6 +543,11 @@ public final class PaperPays {
             return kind == NUMBER && value >= least && value <= most;
         }
 
+        private boolean readStop() {
+            readToken();
+            return kind == STOP;
+        }
+
         private int byteAt(int i) {
             return i >= 0 && i < length && i < MOST_TEXT ? text[i] : -1;
         }
@@ -591,24 +588,22 @@ public final class PaperPays {
                 next++;
             }
             kind = NOTHING;
-            for (int word = 0; word < WORDS; word++) {
-                if (isSpelled(spelling(word))) {
+            int word = 0;
+            int from = 0;
+            boolean same = true;
+            for (int i = 0; i < WORDS.length(); i++) {
+                if (WORDS.charAt(i) != ' ') {
+                    same = same && WORDS.charAt(i) == byteAt(place + i - from);
+                    continue;
+                }
+                if (same && i - from == next - place) {
                     kind = WORD;
                     value = word;
                 }
+                word++;
+                from = i + 1;
+                same = true;
             }
-        }
-
-        private boolean isSpelled(String word) {
-            if (word.length() != next - place) {
-                return false;
-            }
-            for (int i = 0; i < word.length(); i++) {
-                if (word.charAt(i) != byteAt(place + i)) {
-                    return false;
-                }
-            }
-            return true;
         }
 
         private static boolean isDigit(int sign) {
@@ -617,27 +612,6 @@ public final class PaperPays {
 
         private static boolean isLetter(int sign) {
             return sign >= 'a' && sign <= 'z';
-        }
-
-        private static String spelling(int word) {
-            switch (word) {
-                case 0: return "rounds";
-                case PAYS_WORD: return "pays";
-                case 2: return "end";
-                case 3: return "start";
-                case 4: return "lent";
-                case 5: return "short";
-                case 6: return "lid";
-                case 7: return "fee";
-                case 8: return "sales";
-                case PERSON_WORD: return "person";
-                case FIRST_LAW + LAW_WORTH: return "worth";
-                case FIRST_LAW + LAW_RISING: return "rising";
-                case FIRST_LAW + LAW_RIDING: return "riding";
-                case FIRST_LAW + LAW_MISTAKEN: return "mistaken";
-                case FIRST_LAW + LAW_FRESH: return "fresh";
-                default: return "";
-            }
         }
     }
 
@@ -824,7 +798,8 @@ public final class PaperPays {
             }
         }
 
-        private int boardAt(int r) {
+        /** The price behind a round; ahead of the first one it is the start. */
+        int boardAt(int r) {
             return r >= 0 && r < MOST_ROUNDS ? board[r] : ruled.numbers[START];
         }
 
@@ -847,7 +822,6 @@ public final class PaperPays {
             int best = NONE;
             int most = 0;
             for (int r = 0; r < round; r++) {
-                // Ahead of ROUND 0 boardAt answers the start.
                 int fall = boardAt(r - 1) - boardAt(r);
                 if (fall > most) {
                     most = fall;
