@@ -36,6 +36,7 @@ public final class FaceTest {
         fields();
         nested();
         source();
+        methodsAreShort();
         C.end();
     }
 
@@ -115,6 +116,28 @@ public final class FaceTest {
                 truth("seven parameters at most: " + m, m.getParameterCount() <= 7);
             }
         }
+    }
+
+    /** By the file's own layout: a method begins and ends at the same depth. */
+    private static void methodsAreShort() throws IOException {
+        String method = "";
+        int begin = 0;
+        int lines = 0;
+        int found = 0;
+        for (String line : Files.readAllLines(Path.of(SOURCE), StandardCharsets.UTF_8)) {
+            lines++;
+            int depth = line.length() - line.stripLeading().length();
+            if (method.isEmpty() && (depth == 4 || depth == 8) && line.matches("[^=;]*\\(.*\\) \\{")
+                    && !line.matches(" *(if|for|while|switch|\\}).*")) {
+                method = " ".repeat(depth) + "}";
+                begin = lines;
+                found++;
+            } else if (line.equals(method)) {
+                truth("sixty lines at most: the method of line " + begin, lines - begin <= 60);
+                method = "";
+            }
+        }
+        truth("methods found", found > 80);
     }
 
     private static void source() throws IOException {
