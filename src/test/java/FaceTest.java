@@ -7,8 +7,13 @@ import java.nio.charset.StandardCharsets;
 import java.nio.file.Files;
 import java.nio.file.Path;
 import java.util.Arrays;
+import java.util.HashMap;
+import java.util.Map;
 import java.util.Set;
+import java.util.TreeMap;
 import java.util.TreeSet;
+import java.util.regex.Matcher;
+import java.util.regex.Pattern;
 import java.util.stream.Collectors;
 
 /** The class's face as the document has it, and what LANGUAGE.md forbids in its file. */
@@ -27,6 +32,9 @@ public final class FaceTest {
         "import ", "throw", "try ", "catch", "synchronized", "assert", "->", "::", "Exact", "System.out",
         "Random", "Thread", "hashCode", "toString", "equals(", "static {", "HashMap", "LinkedList"};
 
+    private static final Pattern CALL = Pattern.compile("(\\w+)\\(");
+    private static final Set<String> NO_CALLS = Set.of("if", "for", "while", "switch", "return");
+
     private FaceTest() {
     }
 
@@ -36,7 +44,7 @@ public final class FaceTest {
         fields();
         nested();
         source();
-        methodsAreShort();
+        callsAreFlat(bodies());
         C.end();
     }
 
@@ -118,26 +126,58 @@ public final class FaceTest {
         }
     }
 
-    /** By the file's own layout: a method begins and ends at the same depth. */
-    private static void methodsAreShort() throws IOException {
-        String method = "";
-        int begin = 0;
+    /** Each method of the file by its name (those of one name together), by the file's own layout. */
+    private static Map<String, String> bodies() throws IOException {
+        Map<String, String> bodies = new TreeMap<>();
+        String name = "";
+        String end = "";
         int lines = 0;
-        int found = 0;
         for (String line : Files.readAllLines(Path.of(SOURCE), StandardCharsets.UTF_8)) {
-            lines++;
             int depth = line.length() - line.stripLeading().length();
-            if (method.isEmpty() && (depth == 4 || depth == 8) && line.matches("[^=;]*\\(.*\\) \\{")
+            if (end.isEmpty() && (depth == 4 || depth == 8) && line.matches("[^=;]*\\(.*\\) \\{")
                     && !line.matches(" *(if|for|while|switch|\\}).*")) {
-                method = " ".repeat(depth) + "}";
-                begin = lines;
-                found++;
-            } else if (line.equals(method)) {
-                truth("sixty lines at most: the method of line " + begin, lines - begin <= 60);
-                method = "";
+                name = line.replaceAll("\\(.*", "").replaceAll(".* ", "");
+                end = " ".repeat(depth) + "}";
+                lines = 0;
+            } else if (line.equals(end)) {
+                truth("sixty lines at most: " + name, lines < 60);
+                end = "";
+            } else if (!end.isEmpty()) {
+                lines++;
+                bodies.merge(name, line + "\n", String::concat);
             }
         }
-        truth("methods found", found > 80);
+        return bodies;
+    }
+
+    private static void callsAreFlat(Map<String, String> bodies) {
+        truth("methods found", bodies.size() > 80);
+        Map<String, Integer> depths = new HashMap<>();
+        for (String name : bodies.keySet()) {
+            int depth = depthOf(name, bodies, depths, "");
+            truth("calls go eight deep at most: " + name + " " + depth, depth <= 8);
+        }
+    }
+
+    /** How many calls stand open at most below a method, its own and the library's counted, too. */
+    private static int depthOf(String name, Map<String, String> bodies, Map<String, Integer> depths, String open) {
+        if (!bodies.containsKey(name)) {
+            return 1;
+        }
+        truth("no recursion: " + open + " " + name, !(open + " ").contains(" " + name + " "));
+        if (!depths.containsKey(name)) {
+            // Stands here until the method is done, so that a recursion ends.
+            depths.put(name, 1);
+            int below = 0;
+            Matcher call = CALL.matcher(bodies.get(name));
+            while (call.find()) {
+                if (!NO_CALLS.contains(call.group(1))) {
+                    below = Math.max(below, depthOf(call.group(1), bodies, depths, open + " " + name));
+                }
+            }
+            depths.put(name, below + 1);
+        }
+        return depths.get(name);
     }
 
     private static void source() throws IOException {
