@@ -22,6 +22,7 @@ public final class EdgesOfRulesTest {
         zeroAtLeast();
         lidAtMost();
         withoutALid();
+        upTo999();
         seenKMarkets();
         seenByOtherLaws();
         valueNow();
@@ -298,6 +299,49 @@ public final class EdgesOfRulesTest {
         PaperPays x = Checks.with("rounds 20;pays 9 9;end 99;person worth 0 0;person rising 9 0 0;person riding 9 0 0;"
             + "person mistaken 99 0 0;person fresh 9 0 0;");
         values("far above 99", x, 0, 279, 279, 280, 99, 288);
+    }
+
+    /**
+     * "LID at most (999 without)". Those who have seen a market ride: none sells to another, and six rounds fill
+     * their purses. Then one who is new sells to the first of them, far above the start; and all of them being new,
+     * the risings of 9 buy of the rising of 8, round by round.
+     */
+    private static void upTo999() {
+        PaperPays x = Checks.with("rounds 20;pays 9 9;end 99;start 1;lent 99;short 1;sales 1;person rising 8 99 9;"
+            + "person fresh 9 99 0;person rising 9 10 9;person rising 9 30 9;" + "person rising 9 99 9;".repeat(5));
+        x.go(20);
+        x.again();
+        C.due("999: the purses fill", x.go(6), 6);
+        C.due("999: no sale as yet", x.now(3), 0);
+        values("999: riding on 225", x, 0, 226, 226, 226);
+        x.renew(1);
+        value("999: half of 1 and 225, and 9", x, 1, 122);
+        x.go(1);
+        C.due("999: half of 226 and 123", x.now(1), 174);
+        for (int p = 0; p < 9; p++) {
+            x.renew(p);
+        }
+        int[] prices = {321, 446, 552, 642, 719, 784, 839, 886, 926, 960, 989};
+        int price = 174;
+        int prev = 1;
+        for (int next : prices) {
+            int eight = price + 8 * (price - prev) / 10;
+            int nine = price + 9 * (price - prev) / 10;
+            values("999: at " + price, x, 0, eight);
+            values("999: at " + price, x, 2, nine, nine, nine, nine, nine, nine, nine);
+            x.go(1);
+            C.due("999: half of " + nine + " and " + (eight + 1), x.now(1), next);
+            prev = price;
+            price = next;
+        }
+        // 989 and 8, 9 times 29 by 10 would be 1012, 1015.
+        values("999: no more", x, 0, 999);
+        values("999: no more", x, 2, 999, 999, 999, 999, 999, 999, 999);
+        C.due("999: sales", x.now(3), 12);
+        x.go(1);
+        C.due("999: no bid of 1000", x.now(3), 12);
+        C.due("999: the price stays", x.now(1), 989);
+        values("999: it rose by nothing", x, 2, 989);
     }
 
     /** "One who has SEEN k markets (k above 0) with the LAW rising or fresh has it as by riding 2 k." */
